@@ -338,45 +338,11 @@ public final class StruckWords {
     }
 
     public int link(int most) {
-        if (most < 1 || most > MOST_LENT) {
-            return NONE;
-        }
-        Tongue tongue = now.tongue;
-        int mostSaid = Integer.bitCount(finder.collectSafe(tongue, most));
-        int best = NONE;
-        for (int one = 0; one < tongue.sorts; one++) {
-            for (int then = 0; then < tongue.sorts; then++) {
-                if (!tongue.mayFollow(one, then)) {
-                    tongue.turnFollow(one, then);
-                    int said = Integer.bitCount(finder.collectSafe(tongue, most));
-                    tongue.turnFollow(one, then);
-                    best = said > mostSaid ? 10 * one + then : best;
-                    mostSaid = Math.max(mostSaid, said);
-                }
-            }
-        }
-        return best;
+        return mostSayableWith(true, most);
     }
 
     public int lend(int most) {
-        if (most < 1 || most > MOST_LENT) {
-            return NONE;
-        }
-        Tongue tongue = now.tongue;
-        int mostSaid = Integer.bitCount(finder.collectSafe(tongue, most));
-        int best = NONE;
-        for (int w = 0; w < tongue.sayings; w++) {
-            for (int sort = 0; sort < tongue.sorts; sort++) {
-                if (!tongue.readsAs(w, sort)) {
-                    tongue.turnReads(w, sort);
-                    int said = Integer.bitCount(finder.collectSafe(tongue, most));
-                    tongue.turnReads(w, sort);
-                    best = said > mostSaid ? 10 * w + sort : best;
-                    mostSaid = Math.max(mostSaid, said);
-                }
-            }
-        }
-        return best;
+        return mostSayableWith(false, most);
     }
 
     public int other(int n, int run, int m, int most) {
@@ -506,6 +472,29 @@ public final class StruckWords {
             default:
                 return NONE;
         }
+    }
+
+    /** LINK (a 'follow' more), or LENT (a 'reads' more). */
+    private int mostSayableWith(boolean isFollow, int most) {
+        if (most < 1 || most > MOST_LENT) {
+            return NONE;
+        }
+        Tongue tongue = now.tongue;
+        int mostSaid = Integer.bitCount(finder.collectSafe(tongue, most));
+        int best = NONE;
+        int firsts = isFollow ? tongue.sorts : tongue.sayings;
+        for (int first = 0; first < firsts; first++) {
+            for (int sort = 0; sort < tongue.sorts; sort++) {
+                if (!tongue.isTold(isFollow, first, sort)) {
+                    tongue.turnTold(isFollow, first, sort);
+                    int said = Integer.bitCount(finder.collectSafe(tongue, most));
+                    tongue.turnTold(isFollow, first, sort);
+                    best = said > mostSaid ? 10 * first + sort : best;
+                    mostSaid = Math.max(mostSaid, said);
+                }
+            }
+        }
+        return best;
     }
 
     private void putBytes(int number) {
@@ -749,6 +738,19 @@ public final class StruckWords {
 
         void turnFollow(int one, int then) {
             ahead[then] ^= 255L << 8 * one;
+        }
+
+        /** A 'follow' of two SORTS, or a 'reads' of a SAYING and a SORT. */
+        boolean isTold(boolean isFollow, int first, int sort) {
+            return isFollow ? mayFollow(first, sort) : readsAs(first, sort);
+        }
+
+        void turnTold(boolean isFollow, int first, int sort) {
+            if (isFollow) {
+                turnFollow(first, sort);
+            } else {
+                turnReads(first, sort);
+            }
         }
 
         boolean mayEnd(int sort) {
