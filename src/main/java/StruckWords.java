@@ -1011,7 +1011,10 @@ public final class StruckWords {
             return lines;
         }
 
-        /** How many SAYINGS; -1 less the place of a FAULT. */
+        /**
+         * How many SAYINGS; -1 less the place of a FAULT. A WORD that a TONGUE is told with is no
+         * NAME, so it can't come here either: FAULT 1, the least that it has.
+         */
         int readText(Row tape, Tongue of, Row into) {
             begin(tape, of, MOST_OF_TEXT);
             into.size = 0;
@@ -1734,7 +1737,7 @@ public final class StruckWords {
         /** By place and SORT of the SAYING ahead: the greatest product of all that comes; 0: nothing can. */
         private final long[] greatest = new long[(MOST_TORN + 1) * (SORTS + 1)];
 
-        /** It is all told for the TONGUE as it is now. */
+        /** All is told here, since the TONGUE may be another one when it is asked for. */
         void look(Tongue newTongue, Row row, int b, int n) {
             isThere = true;
             tongue = newTongue;

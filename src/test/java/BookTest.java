@@ -51,6 +51,11 @@ public final class BookTest {
         Check.due("by 1 alone", y.book(1), 1);
         Check.due("not by 2", y.book(2), 0);
         Check.due("by any", y.book(0), 1);
+        y.image(0);
+        y.add();
+        Check.due("both", y.book(0), 3);
+        y.restore(0);
+        Check.due("one again", y.book(0), 1);
     }
 
     private static void images() {
@@ -65,6 +70,9 @@ public final class BookTest {
         x.add();
         Check.dueTongue(x, "word u;", 1, 0);
         Check.due("image(1)", x.image(1), true);
+        Check.text(x, "u");
+        x.add();
+        x.add();
         Check.due("restore(2)", x.restore(2), false);
         Check.due("restore(-1)", x.restore(-1), false);
         for (int again = 0; again < 2; again++) {

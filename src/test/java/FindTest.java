@@ -87,6 +87,9 @@ public final class FindTest {
         Check.due("most 0", find(x, 0, 3, 9, 9, 9), -2);
         Check.due("most 7", find(x, 7, 3, 9, 9, 9), -2);
         Check.dueFound(x, 0, 1, 2);
+        x.feed(0x03090909, 0x7F7F7F7F, 0, 0, 0);
+        Check.due("end", x.end(4), true);
+        Check.due("what was cut off does not count", x.find(6), 3);
         Check.due("no sayings", find(new StruckWords(), 6, 9, 9, 9, 9), -2);
         Check.due("no sayings", cheapest(new StruckWords(), 5, 9, 9, 9, 9), -2);
         Check.due("no sayings", verse(new StruckWords(), 0, 6, 9, 9, 9, 9), -2);
@@ -114,6 +117,8 @@ public final class FindTest {
         // y's that are odd by 0 and two of the beginnings can't be so by the third.
         Check.due("a longer one that costs less", cheapest(y, 5, 1, 9, 9, 0), 0);
         Check.dueFound(y, 1, 1, 1);
+        Check.due("as long as may be", cheapest(y, 3, 1, 9, 9, 0), 0);
+        Check.due("no such in two", cheapest(y, 2, 1, 9, 9, 0), -1);
     }
 
     private static void cheapestOfLikeOnes() {
@@ -174,6 +179,8 @@ public final class FindTest {
         Check.due("longer(1, 7)", x.longer(1, 7), -7);
         Check.dueFound(x);
         Check.due("no sayings", new StruckWords().longer(0, 6), -7);
+        Check.due("goals are no meanings", Check.tongue(EATS).longer(8, 6), -7);
+        Check.due("goals are no meanings", Check.tongue(EATS).longer(9, 6), -7);
         StruckWords six = Check.tongue("sort s begins ends;follow s s;mark m;mark n;mark o;word x;word y;word z;"
             + "reads x s sets m;reads y s sets n;reads z s sets o;");
         Check.due("6 and 3", six.longer(7, 6), 3);
@@ -192,6 +199,7 @@ public final class FindTest {
         Check.due("four of five in four", x.other(5, 4, 1, 4), -1);
         Check.due("three of four", x.other(4, 3, 0, 6), 4);
         Check.due("none", x.other(3, 1, 2, 6), -1);
+        Check.due("none in one", x.other(2, 1, 1, 1), -1);
         int[][] none = {{1, 1, 0, 6}, {6, 1, 0, 6}, {3, 0, 0, 6}, {3, 3, 0, 6}, {2, 2, 0, 6}, {3, 1, 8, 6}, {3, 1, -1, 6},
             {3, 1, 0, 0}, {3, 1, 0, 7}};
         for (int[] no : none) {

@@ -123,6 +123,14 @@ public final class MeaningTest {
         Check.due("standIn(4)", x.standIn(4), -1);
         Check.due("standIn(-1)", x.standIn(-1), -1);
         Check.due("the text stays", x.leftAt(0, 2), 3);
+        Check.text(x, "on");
+        Check.due("all of it counts, too", x.standIn(0), 1 | 4);
+        Check.text(x, "and and on");
+        // By 1 and 2 on sets p whatever is ahead of it; by 3 nothing comes behind it.
+        Check.due("and so does the last beginning", x.standIn(0), 2 | 8);
+        StruckWords none = Check.tongue("sort a;word x;word y;reads x a;");
+        Check.text(none, "x x");
+        Check.due("none has a reading, so all may stand in", none.standIn(1), 3);
     }
 
     private static void safe() {
@@ -135,6 +143,8 @@ public final class MeaningTest {
         Check.due("nothing is left by 1", x.safe(), -1);
         Check.text(x, "on off");
         Check.due("not all the same", x.safe(), -1);
+        Check.text(x, "and and on");
+        Check.due("the last beginning means another", x.safe(), -1);
         Check.text(x, "on flip flip on flip flip");
         // By 1 four times flip is left, by 2 and 3 on flip on flip.
         Check.due("safe for 0", x.safe(), 0);

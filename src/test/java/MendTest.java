@@ -71,14 +71,19 @@ public final class MendTest {
         Check.tape(x, new byte[11]);
         x.lay();
         Check.due("eleven", x.mend(), -2);
-        // Ten that strike each other's meaning but for what is put in: 13 are found.
         StruckWords y = Check.tongue("edict 2 1;sort a begins ends;follow a a;mark m;word x;word y idle;"
             + "reads x a turns m;reads y a clears m;");
         Check.tape(y, 0, 0, 0, 0, 0, 0, 0, 0, 0, 0);
         y.lay();
-        int putIn = y.mend();
-        Check.due("some are put in", putIn, 2);
+        Check.due("two into ten", y.mend(), 2);
         Check.dueFound(y, 0, 0, 0, 0, 0, 0, 0, 0, 0, 0, 1, 1);
+        // By each beginning one of four is left, the last one of the last four.
+        StruckWords z = Check.tongue("edict 4 3;sort a begins ends;follow a a;mark m;word x;word z;word y idle;"
+            + "reads x a sets m;reads z a clears m;reads y a clears m;");
+        Check.tape(z, 0, 0, 0, 0, 0, 0, 0, 0, 0, 1);
+        z.lay();
+        Check.due("three into ten", z.mend(), 3);
+        Check.dueFound(z, 0, 0, 0, 0, 0, 0, 0, 0, 0, 1, 2, 2, 2);
     }
 
     private static long torn(StruckWords x, int b, int n, int... row) {
@@ -133,6 +138,9 @@ public final class MendTest {
         Check.due("too few", torn(x, 1, 3, 0), -1);
         Check.due("too many", torn(x, 1, 3, 0, 0, 0), -1);
         Check.due("no saying", torn(x, 1, 2, 4), -1);
+        Check.due("no saying behind one", torn(x, 1, 2, 0, 4), -1);
+        Check.due("no saying behind two", torn(x, 1, 3, 0, 0, 4), -1);
+        Check.due("b 4 of 2", torn(x, 4, 2, 0, 0), -1);
         Check.due("n far too large", torn(x, 1, Integer.MAX_VALUE, 0), -1);
         dueSure(x, 2, 1, 2);
         Check.due("no sayings at all", torn(new StruckWords(), 1, 1), 0);
@@ -156,9 +164,11 @@ public final class MendTest {
         Check.due("y ? of x alone", torn(x, 2, 2, 1), 1);
         Check.due("likeliest", x.likeliest(), 7);
         Check.dueFound(x, 1, 0);
+        Check.tape(x, 9, 9, 9, 9);
+        Check.due("find", x.find(1), 1);
         Check.due("x x can't be", torn(x, 3, 2, 0, 0), 0);
         Check.due("no row", x.likeliest(), 0);
-        Check.dueFound(x, 1, 0);
+        Check.dueFound(x, 0);
         Check.due("nothing was struck", torn(x, 3, 2, 2, 0), 1);
         Check.due("the product of none", x.likeliest(), 1);
         Check.dueFound(x, 2, 0);
@@ -169,13 +179,19 @@ public final class MendTest {
         Check.due("? ? ? e", torn(y, 1, 4, 3), 9);
         Check.due("6 * 6 * 6", y.likeliest(), 216);
         Check.dueFound(y, 2, 2, 2, 3);
-        // Three for one: 2 * 3 and 6 * 1 are alike, and of those the first is told.
         StruckWords like = Check.tongue("edict 3 2;sort a begins;sort b;sort c;sort d ends;follow a b;follow c d;"
             + "follow b d;word e;word u weighs 6;word v;word s weighs 2;word t weighs 3;"
             + "reads s a;reads t b;reads u a;reads v b;reads e d;");
         Check.due("? ? e", torn(like, 1, 3, 0), 4);
         Check.due("6 * 3", like.likeliest(), 18);
         Check.dueFound(like, 1, 4, 0);
+        // q can be d as well, which r could follow; but d does not follow a.
+        StruckWords one = Check.tongue("edict 4 2;sort a begins;sort c;sort d;sort e ends;sort f ends;"
+            + "follow a c;follow c f;follow d e;word p;word q;word r;word s;"
+            + "reads p a;reads q c;reads q d;reads r e;reads s f;");
+        Check.due("p ? ?", torn(one, 2, 3, 0), 1);
+        Check.due("likeliest", one.likeliest(), 1);
+        Check.dueFound(one, 0, 1, 3);
     }
 
     private static void mostTorn() {

@@ -39,7 +39,8 @@ public final class TextTest {
             Check.due("becomes(1, 1, " + m + ")", x.becomes(1, 1, m), m);
             Check.due("becomes(1, 0, " + m + ")", x.becomes(1, 0, m), -1);
         }
-        int[][] none = {{2, 0, 0}, {-1, 0, 0}, {0, 2, 0}, {0, -1, 0}, {0, 0, 8}, {0, 0, -1}, {0, 5, 0}, {8, 0, 0}};
+        int[][] none = {{2, 0, 0}, {-1, 0, 0}, {0, 2, 0}, {0, -1, 0}, {0, 0, 8}, {0, 0, -1}, {0, 5, 0}, {8, 0, 0},
+            {0, 32, 0}, {32, 0, 0}, {0, 0, 32}};
         for (int[] no : none) {
             Check.due("becomes of none such", x.becomes(no[0], no[1], no[2]), -1);
         }
@@ -48,14 +49,14 @@ public final class TextTest {
     }
 
     private static void alike() {
-        StruckWords x = Check.tongue("sort a;sort b;mark m;word p;word q;word r;word s;word t;word u costs 9;"
-            + "reads p a sets m;reads q a clears m sets m;reads r b sets m;reads s a sets m;reads s b;"
+        StruckWords x = Check.tongue("sort a;sort b;mark m;word p;word q;word r;word s;word t;word u costs 9;word v;"
+            + "reads v a clears m;reads p a sets m;reads q a clears m sets m;reads r b sets m;reads s a sets m;reads s b;"
             + "reads u a turns m clears m turns m;");
-        int[] due = {35, 35, 4, 8, 16, 35};
-        for (int w = 0; w < 6; w++) {
+        int[] due = {35, 35, 4, 8, 16, 35, 64};
+        for (int w = 0; w < 7; w++) {
             Check.due("alike(" + w + ")", x.alike(w), due[w]);
         }
-        Check.due("alike(6)", x.alike(6), -1);
+        Check.due("alike(7)", x.alike(7), -1);
         Check.due("alike(-1)", x.alike(-1), -1);
         StruckWords y = Check.tongue("sort a;word p;word q;");
         Check.due("alike of two that read with none", y.alike(0), 3);
