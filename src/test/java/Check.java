@@ -5,6 +5,7 @@ import java.util.NoSuchElementException;
 final class Check {
     private static int wrong = 0;
     private static int seen = 0;
+    private static String about = "";
 
     private Check() {
     }
@@ -14,9 +15,23 @@ final class Check {
         if (got != want) {
             wrong++;
             if (wrong <= 50) {
-                System.out.println(what + " answered " + got + ", due is " + want);
+                System.out.println(about + what + " answered " + got + ", due is " + want);
             }
         }
+    }
+
+    /** What is said ahead of each answer that is not as due, from here on. */
+    static void about(String what) {
+        about = what.isEmpty() ? "" : "[" + what + "] ";
+    }
+
+    static int seen() {
+        return seen;
+    }
+
+    static void fail(String what) {
+        wrong++;
+        System.out.println(about + what);
     }
 
     static void due(String what, boolean got, boolean want) {
@@ -112,6 +127,63 @@ final class Check {
         due("text of " + text, x.text(), want);
         due("fault of " + text, x.fault(), fault);
         due("tape behind " + text, x.count(7), 0);
+    }
+
+    /** A TONGUE with one FAULT: a '^' stands just ahead of where it is due. */
+    static void faultOfTongue(int kind, String marked) {
+        dueTongue(marked.replace("^", ""), -1 - marked.indexOf('^'), kind);
+    }
+
+    static void faultOfText(StruckWords x, int kind, String marked) {
+        dueText(x, marked.replace("^", ""), -1 - marked.indexOf('^'), kind);
+    }
+
+    static void goodTongue(int lines, String text) {
+        dueTongue(text, lines, 0);
+    }
+
+    /** What can be asked of TONGUE, TEXT and BOOK in some fifty calls, to see that they stay. */
+    static String shape(StruckWords x) {
+        StringBuilder all = new StringBuilder();
+        for (int what = 0; what < 7; what++) {
+            all.append(x.count(what)).append(' ');
+        }
+        for (int what = 0; what < 10 && x.count(2) > what / 5; what++) {
+            all.append(x.word(what / 5, what % 5)).append(' ');
+        }
+        for (int i = 0; i < x.left(0); i++) {
+            all.append(x.leftAt(0, i)).append(' ');
+        }
+        for (int b = 0; b <= x.count(3); b++) {
+            all.append(x.means(b)).append(' ').append(x.book(b)).append(' ');
+        }
+        return all.toString();
+    }
+
+    static void dueShape(String what, StruckWords x, String want) {
+        String got = shape(x);
+        due(what + " (" + got + ", not " + want + ")", got.equals(want), true);
+    }
+
+    static void dueRow(String what, StruckWords x, int b, int... row) {
+        due(what + ", how many", x.left(b), row.length);
+        for (int i = 0; i < row.length; i++) {
+            due(what + ", at " + i, x.leftAt(b, i), row[i]);
+        }
+    }
+
+    static void lay(StruckWords x, int... row) {
+        tape(x, row);
+        due("lay", x.lay(), row.length);
+    }
+
+    /** A text of so many bytes: the start, blanks, the end. */
+    static String filled(String start, int size, String end) {
+        StringBuilder all = new StringBuilder(start);
+        while (all.length() + end.length() < size) {
+            all.append(' ');
+        }
+        return all.append(end).toString();
     }
 
     static void dueFound(StruckWords x, int... row) {
