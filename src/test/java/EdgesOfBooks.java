@@ -175,6 +175,18 @@ final class EdgesOfBooks {
         Check.due("kept anew", x.image(0), true);
         x.restore(0);
         Check.dueShape("the latest is kept", x, other);
+        StruckWords full = Check.tongue(TURNING);
+        for (int c = 0; c < 10; c++) {
+            Check.lay(full, new int[24 - c]);
+            full.add();
+        }
+        Check.due("a full book", full.image(0), true);
+        Check.dueTongue(full, TURNING, 7, 0);
+        full.restore(0);
+        for (int c = 0; c < 10; c++) {
+            Check.due("take(" + c + ")", full.take(c), 24 - c);
+        }
+        Check.due("it is full again", full.add(), -1);
         StruckWords empty = new StruckWords();
         Check.due("an empty tongue can be kept", empty.image(1), true);
         Check.dueTongue(empty, "sort a;", 1, 0);

@@ -155,6 +155,9 @@ final class EdgesOfMeanings {
         Check.due("without x", all.means(1), 1 | 4 | 16 | 64);
         Check.due("without y", all.means(2), 1 | 2 | 16 | 32);
         Check.due("without z", all.means(3), 1 | 2 | 4 | 8);
+        Check.text(all, "x y z x");
+        Check.due("all eight, and again", all.means(0), 255);
+        Check.due("by 1 y and z are left", all.means(1), 1 | 4 | 16 | 64);
     }
 
     private static void meansNothing() {
@@ -268,6 +271,14 @@ final class EdgesOfMeanings {
         Check.text(none, "y x");
         dueKnown(none, 1, 1, 1);
         dueKnown(none, 0, 0, 1);
+        StruckWords by2 = Check.tongue("edict 2 1;clerk 1 4;clerk 2 2;" + DOUBTFUL);
+        Check.text(by2, "y x");
+        // By 1 it means 1, by 2 it means 0.
+        dueKnown(by2, 1, 2, 3);
+        dueKnown(by2, 0, 1, 3);
+        StruckWords by3 = Check.tongue("edict 2 1;clerk 1 6;clerk 2 9;" + DOUBTFUL);
+        Check.text(by3, "y x");
+        dueKnown(by3, 1, 2, 5);
         StruckWords without = Check.tongue("edict 4 1;" + DOUBTFUL);
         Check.text(without, "x");
         dueKnown(without, 1, 3, 4);
@@ -359,6 +370,12 @@ final class EdgesOfMeanings {
         Check.due("cf", y.letters(1), 2);
         Check.due("ad", y.letters(2), 0);
         Check.due("abe", y.letters(3), 0);
+        StruckWords eight = Check.tongue("word a;word b;word c;word d;word e;word f;word g;word abc;");
+        Check.text(eight, "abc");
+        Check.due("abc, of eight", eight.letters(0), 2);
+        Check.dueTongue(eight, "word abc;", 1, 0);
+        Check.text(eight, "abc");
+        Check.due("words of an older tongue are none", eight.letters(0), 1);
         // c ab f: by 3 the run goes on in the next NAME.
         Check.text(y, "c ab f");
         Check.due("b by 1", y.letters(1), 0);
@@ -488,6 +505,11 @@ final class EdgesOfMeanings {
         // By 2 x z is left: b d is ahead of e e.
         Check.due("x z", x.sortAt(2, 0), 1);
         Check.due("x z", x.sortAt(2, 1), 3);
+        StruckWords same = Check.tongue(TURNING);
+        Check.lay(same, new int[24]);
+        Check.due("the first of 24", same.sortAt(0, 0), 0);
+        Check.due("the last of 24", same.sortAt(0, 23), 0);
+        Check.due("the last of 16", same.sortAt(1, 15), 0);
         Check.text(x, "x");
         Check.due("x alone ends as e", x.sortAt(0, 0), 4);
         Edge.says("Promise 16", "NONE: there is none, no such ones.");

@@ -7,6 +7,7 @@ final class EdgesOfRows {
         + "reads a s sets l;reads b s sets m;reads c s sets n;reads z s;";
     private static final String DOUBTFUL = "sort a begins ends;sort b begins ends;follow a a;follow a b;follow b a;follow b b;"
         + "mark m;word v;reads v a sets m;reads v b;";
+    private static final String CHAIN = "sort a begins;sort b ends;follow a b;word x;word y;reads x a;reads y b;";
     private static final int[] FAR = {Integer.MIN_VALUE, -2, 33, 256, Integer.MAX_VALUE};
 
     private EdgesOfRows() {
@@ -201,6 +202,13 @@ final class EdgesOfRows {
         Check.due("t t t means another by 0", turning.sayable(3), 1);
         StruckWords doubtful = Check.tongue(DOUBTFUL);
         Check.due("two meanings always", doubtful.sayable(5), 0);
+        Check.due("a row of one is found", find(x, 6, 9, 9, 9, 9), 1);
+        Check.due("what was looked for ahead of it does not count", x.sayable(4), sayable[3]);
+        // By 0 x x y y does not read, but by each beginning x y does.
+        StruckWords struck = Check.tongue("edict 2 1;" + CHAIN);
+        Check.due("by 0 anything", struck.sayable(4), 1);
+        Check.due("a row of two is found", find(struck, 6, 0, 9, 9), 2);
+        Check.due("by 0 anything", struck.sayable(4), 1);
         StruckWords last = Check.tongue("edict 5 4;" + SETTING);
         Check.due("in four nothing is left by 1", last.sayable(4), 0);
         Check.due("in five one is left", last.sayable(5), 1 | 2 | 4 | 16);
@@ -210,6 +218,10 @@ final class EdgesOfRows {
     private static final String UNLINKED = "edict 2 1;sort a begins ends;sort b begins ends;sort c begins ends;"
         + "mark l;mark m;mark n;word x;word y;word z;word w;"
         + "reads x a sets l;reads y b sets m;reads z c sets n;reads w c turns l;";
+
+    /** Always read in two ways. */
+    private static final String LESS = "sort a begins ends;sort b begins ends;follow a a;follow b b;mark m;word w;"
+        + "reads w a sets m;reads w b;";
 
     private static void linkIs() {
         Edge.says(TERMS, "LINK: one 'follow' more, not told, with which the most are SAYABLE in so many");
@@ -223,6 +235,11 @@ final class EdgesOfRows {
         Check.due("nothing of it stays", x.sayable(4), 1 << 1 | 1 << 2 | 1 << 4);
         StruckWords told = Check.tongue(UNLINKED + "follow a c;");
         Check.due("told already: another one then", told.link(4), 12);
+        // Without a a, or b b, one meaning of two w's would be left; but a follow is told more, not less.
+        StruckWords less = Check.tongue(LESS);
+        Check.due("both meanings always", less.sayable(4), 0);
+        Check.due("none is taken away", less.link(4), -1);
+        Check.due("were it", Check.tongue(LESS.replace("follow a a;", "")).sayable(4), 1);
     }
 
     private static void linkOfLikeOnes() {
@@ -252,6 +269,8 @@ final class EdgesOfRows {
         Check.due("not in three", x.lend(3), -1);
         Check.due("nothing of it stays", x.becomes(1, 1, 0), -1);
         Check.due("nothing of it stays", x.sayable(4), 1 << 3 | 1 << 6);
+        Check.due("none is taken away", Check.tongue(LESS).lend(4), -1);
+        Check.due("were it", Check.tongue(LESS.replace("reads w a sets m;", "")).sayable(4), 1);
         StruckWords told = Check.tongue(UNLENT + "reads x b;reads z b;");
         Check.due("what is told is not lent: y a then", told.lend(4), 0);
     }
@@ -386,6 +405,7 @@ final class EdgesOfRows {
         Check.due("not in 1", x.longer(1, 1), -7);
         StruckWords five = Check.tongue("edict 5 4;" + SETTING);
         Check.due("5 and 1", five.longer(4, 6), 4);
+        Check.due("x x y y, which does not read by 0, and x y", Check.tongue("edict 2 1;" + CHAIN).longer(0, 6), 2);
         Check.dueFound(x);
         Edge.says("Promise 28", "may be below 0;");
         // What is left by 1 of a row that is safe is a shorter row that means it by 0: below 1 none can be.
@@ -409,8 +429,7 @@ final class EdgesOfRows {
         StruckWords x = Check.tongue(SETTING);
         Check.due("the one is not there", x.longer(7, 5), -7);
         Check.due("both are not there", x.longer(7, 2), -7);
-        StruckWords chain = Check.tongue("sort a begins;sort b ends;follow a b;word x;word y;reads x a;reads y b;");
-        Check.due("by no beginning, but by 0", chain.longer(0, 3), -7);
+        Check.due("by no beginning, but by 0", Check.tongue(CHAIN).longer(0, 3), -7);
         for (int no : new int[] {-1, 8, 9, Integer.MIN_VALUE, Integer.MAX_VALUE}) {
             Check.due("m " + no, x.longer(no, 6), -7);
         }
@@ -461,8 +480,12 @@ final class EdgesOfRows {
         Check.due("none", find(none, 6, 8, 9, 9, 9), -1);
         Check.due("not as told", find(none, 6, 10, 9, 9, 9), -2);
         Check.due("none is found", none.foundAt(0), -1);
+        Check.due("cheapest", cheapest(none, 5, 4, 9, 9, 9), 1);
+        Check.dueFound(none, 2);
         Check.due("found", find(none, 6, 7, 9, 9, 9), 3);
         Check.due("none", find(none, 6, 8, 9, 9, 9), -1);
+        Check.due("none", cheapest(none, 5, 8, 9, 9, 9), -1);
+        Check.due("none", verse(none, 54, 6, 9, 9, 9, 9), -1);
         Check.dueFound(none, 0, 1, 2);
     }
 
@@ -535,6 +558,7 @@ final class EdgesOfRows {
         }
         Check.due("none set", x.other(2, 1, 0, 6), 2);
         Check.due("all set", x.other(4, 1, 7, 6), 6);
+        Check.due("x x y y, which does not read by 0", Check.tongue("edict 5 1;" + CHAIN).other(2, 1, 0, 6), 4);
         Check.due("the edict stays", x.count(3) * 10 + x.count(4), 51);
         Check.dueFound(x);
         Edge.says("Promise 33", "NONE: none (so without SAYINGS);");
@@ -599,6 +623,12 @@ final class EdgesOfRows {
         Check.lay(x, 0, 0, 0, 0, 0, 0, 0, 0, 0, 1);
         Check.due("three into ten", x.mend(), 3);
         Check.dueFound(x, 0, 0, 0, 0, 0, 0, 0, 0, 0, 1, 2, 2, 2);
+        // The last four must clear it; were the thirteenth not struck, y y y could come first.
+        StruckWords first = Check.tongue("edict 4 3;" + FREE + "mark m;word y idle;word x;word z;"
+            + "reads x s sets m;reads z s clears m;reads y s clears m;");
+        Check.lay(first, 1, 1, 1, 1, 1, 1, 1, 1, 1, 2);
+        Check.due("three into ten", first.mend(), 3);
+        Check.dueFound(first, 1, 1, 1, 1, 1, 1, 1, 1, 1, 0, 0, 0, 2);
         Check.lay(x, 0, 0, 0, 0, 0, 0, 0, 0, 0, 0, 0);
         Check.due("eleven, though it is safe", x.safe(), 1);
         Check.due("eleven", x.mend(), -2);

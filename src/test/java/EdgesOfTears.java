@@ -93,6 +93,15 @@ final class EdgesOfTears {
         Check.due("? a b ? c z ?", x.sure(0), 1 << 7);
         torn(x, 1, 10, 3, 3, 3, 3, 3, 3);
         Check.due("? z z ? z z ? z z ?", x.sure(0), 255);
+        // SORT 1 and SORT 4 carry what was set ahead of them.
+        StruckWords sorts = Check.tongue("sort a begins;sort b;sort c;sort d;sort e ends;follow a b;follow b e;mark l;mark m;mark n;"
+            + "word p;word q;word r;word s;reads p a;reads q a sets l sets n;reads r b;reads r e;reads s b sets m;reads s e turns n;");
+        torn(sorts, 1, 3, 2, 2);
+        Check.due("? r r", sorts.sure(0), 1 | 1 << 5);
+        torn(sorts, 1, 3, 3, 3);
+        Check.due("? s s", sorts.sure(0), 1 << 6 | 1 << 3);
+        torn(sorts, 3, 3, 1, 3);
+        Check.due("q s ?", sorts.sure(0), 1 << 7 | 1 << 3);
     }
 
     private static void dueSure(StruckWords x, int meanings, int set, int not) {
@@ -139,6 +148,20 @@ final class EdgesOfTears {
         torn(chain, 1, 3, 1);
         Check.due("x z x", chain.likeliest(), 9);
         Check.dueFound(chain, 1, 3, 1);
+        // q can be d as well, which r could follow; but d does not follow a.
+        StruckWords one = Check.tongue("edict 4 2;sort a begins;sort c;sort d;sort e ends;sort f ends;"
+            + "follow a c;follow c f;follow d e;word p;word q;word r;word s;"
+            + "reads p a;reads q c;reads q d;reads r e;reads s f;");
+        Check.due("p ? ?", torn(one, 2, 3, 0), 1);
+        Check.due("p q s", one.likeliest(), 1);
+        Check.dueFound(one, 0, 1, 3);
+        // Read as e it goes on with v, read as d with w, which weighs more.
+        StruckWords two = Check.tongue("edict 4 3;sort a begins;sort d;sort e;sort f ends;sort g ends;"
+            + "follow a d;follow a e;follow d f;follow e g;word p;word q;word v weighs 3;word w weighs 5;"
+            + "reads p a;reads q e;reads q d;reads v g;reads w f;");
+        Check.due("p ? ?", torn(two, 2, 3, 0), 2);
+        Check.due("p q w", two.likeliest(), 5);
+        Check.dueFound(two, 0, 1, 3);
         StruckWords most = Check.tongue(MOST);
         torn(most, 1, 12, 0, 7);
         Check.due("60^10", most.likeliest(), 604_661_760_000_000_000L);
@@ -157,6 +180,10 @@ final class EdgesOfTears {
         torn(y, 1, 2);
         Check.due("2 * 3", y.likeliest(), 6);
         Check.dueFound(y, 0, 1);
+        StruckWords first = Check.tongue("sort a begins ends;follow a a;word o;word p;reads p a;");
+        torn(first, 1, 2, 1);
+        Check.due("o weighs as much, but does not read", first.likeliest(), 1);
+        Check.dueFound(first, 1, 1);
         StruckWords most = Check.tongue(MOST.replace(" weighs 60", ""));
         torn(most, 1, 12, 3, 4);
         Check.due("all alike", most.likeliest(), 1);
@@ -210,6 +237,8 @@ final class EdgesOfTears {
             Check.due("of five three are left, not " + size, torn(x, 1, 5, new int[size]), size == 3 ? 16 : -1);
         }
         Check.due("4 is no saying", torn(x, 1, 2, 4), -1);
+        Check.due("nor is it behind as many as are left", torn(x, 1, 2, 0, 4), -1);
+        Check.due("nor ahead of them", torn(x, 1, 2, 4, 0), -1);
         Check.due("nor 255", torn(x, 1, 3, 0, 255), -1);
     }
 

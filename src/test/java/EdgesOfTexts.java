@@ -129,6 +129,20 @@ final class EdgesOfTexts {
         x.feed(0, 0, 0, 0, 0);
         Check.due("none of it", x.end(0), true);
         Check.due("none", x.count(7), 0);
+        StruckWords y = Check.tongue("word ab;word abc;sort s begins ends;reads ab s;");
+        for (int size = 1; size <= 4; size++) {
+            Check.tape(y, "abcdabcdabcdabcdabcd");
+            y.end(size);
+            Check.due("letters that were cut are not read, " + size, y.text(), size == 2 || size == 3 ? 1 : -1);
+            Check.due("the one that is there", y.fault(), size == 2 || size == 3 ? 0 : 3);
+        }
+        Check.tape(y, "sort a;sort b;sort c");
+        y.end(13);
+        Check.due("a semicolon that was cut is not read", y.tongue(), -14);
+        StruckWords z = Check.tongue("sort s begins ends;word a;reads a s;");
+        z.feed(0x09090909, 0x63636363, 0, 0, 0);
+        z.end(4);
+        Check.due("goals that were cut do not count", z.find(3), 1);
     }
 
     private static void endRefused() {
@@ -243,6 +257,26 @@ final class EdgesOfTexts {
         Check.tape(x, Check.filled("sort a;", 901, ""));
         Check.due("901 bytes", x.tongue(), -901);
         Check.dueShape("it stays behind 901 bytes", x, shape);
+        // What a tongue with a FAULT has told is no part of the next one.
+        String faulty = "edict 5 4;clerk 1 9;sort s begins ends;sort r begins ends;mark m;word w beats 9 weighs 9 costs 9 idle;"
+            + "follow s s;follow r s;reads w s sets m;reads w r;word w";
+        Check.dueTongue(x, faulty, -faulty.length(), 3);
+        Check.dueTongue(x, "sort s;sort r begins;word w;reads w s;reads w r;", 5, 0);
+        int[] counts = {2, 0, 1, 3, 1, 0, 0, 0};
+        for (int what = 0; what < 8; what++) {
+            Check.due("count(" + what + ")", x.count(what), counts[what]);
+        }
+        for (int what = 0; what < 5; what++) {
+            Check.due("word(0, " + what + ")", x.word(0, what), what == 3 ? 0 : what == 4 ? 2 : 1);
+        }
+        Check.due("no changes", x.becomes(0, 0, 0), 0);
+        Check.lay(x, 0);
+        Check.due("no sort ends", x.readings(0), 0);
+        Check.dueTongue(x, "sort s ends;sort r begins ends;word w;reads w s;reads w r;", 5, 0);
+        Check.lay(x, 0);
+        Check.due("s does not begin", x.readings(0), 1);
+        Check.lay(x, 0, 0);
+        Check.due("nothing follows", x.readings(0), 0);
         Check.due("the first place", placeOf("#"), -1);
         Check.due("the second", placeOf(" #"), -2);
         Check.due("the last but one", placeOf(Check.filled("", 899, "#")), -899);

@@ -27,6 +27,7 @@ final class EdgesOfTongues {
         clerkLine();
         names();
         limits();
+        allSorts();
         theFirstFault();
         cannotCome();
         theEnd();
@@ -143,6 +144,12 @@ final class EdgesOfTongues {
                 Check.dueTongue("sort " + (char) sign + "b;", -6, 1);
                 Check.dueText(Check.tongue("word a;"), "a a" + (char) sign, -4, 1);
             }
+        }
+        for (char sign : "a0".toCharArray()) {
+            String full = Check.filled("", 940, "").replace(' ', sign);
+            Check.dueTongue(full, -1, 1);
+            Check.dueText(new StruckWords(), full, -1, 1);
+            Check.dueTongue("sort " + full.substring(5), -6, 1);
         }
     }
 
@@ -356,6 +363,40 @@ final class EdgesOfTongues {
         Check.due("the last mark", x.becomes(7, 4, 0), 4);
         Check.dueText(x, "p", 1, 0);
         Check.due("the last sort", x.sortAt(0, 0), 4);
+    }
+
+    /** Each SORT ahead of each, with no other way to begin, to follow or to end, and all MARKS set. */
+    private static void allSorts() {
+        String five = "abcde";
+        for (int one = 0; one < 5; one++) {
+            for (int then = 0; then < 5; then++) {
+                StringBuilder told = new StringBuilder("mark l;mark m;mark n;word u;");
+                for (int i = 0; i < 5; i++) {
+                    told.append("sort ").append(five.charAt(i)).append(i == one ? " begins" : "")
+                        .append(i == then ? " ends;" : ";");
+                    told.append("reads u ").append(five.charAt(i)).append(" sets l sets m sets n;");
+                }
+                told.append("follow ").append(five.charAt(one)).append(' ').append(five.charAt(then)).append(';');
+                StruckWords x = Check.tongue(told.toString());
+                int sameAlone = one == then ? 1 << 7 : 0;
+                int[] means = {0, sameAlone, 1 << 7, sameAlone, sameAlone};
+                for (int size = 0; size < 5; size++) {
+                    Check.lay(x, new int[size]);
+                    Check.due(one + " " + then + ": means of " + size, x.means(0), means[size]);
+                    Check.due(one + " " + then + ": readings of " + size, x.readings(0), means[size] == 0 ? 0 : 1);
+                }
+                Check.lay(x, 0, 0);
+                Check.due("the first sort", x.sortAt(0, 0), one);
+                Check.due("the second sort", x.sortAt(0, 1), then);
+                Check.due("torn by 3", tornOfTwo(x), 1);
+                Check.due("it means all marks", x.sure(0), 1 << 7);
+            }
+        }
+    }
+
+    private static long tornOfTwo(StruckWords x) {
+        Check.tape(x, 0, 0);
+        return x.torn(3, 2);
     }
 
     private static void theFirstFault() {
