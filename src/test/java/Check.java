@@ -172,6 +172,20 @@ final class Check {
         }
     }
 
+    /** Five SORTS that begin and end, each of which may follow each. */
+    static String fiveThatFollow() {
+        StringBuilder told = new StringBuilder();
+        for (char one : "abcde".toCharArray()) {
+            told.append("sort ").append(one).append(" begins ends;");
+        }
+        for (char one : "abcde".toCharArray()) {
+            for (char then : "abcde".toCharArray()) {
+                told.append("follow ").append(one).append(' ').append(then).append(';');
+            }
+        }
+        return told.toString();
+    }
+
     static void lay(StruckWords x, int... row) {
         tape(x, row);
         due("lay", x.lay(), row.length);

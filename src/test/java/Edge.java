@@ -14,6 +14,7 @@ final class Edge {
     private static final Path DOCUMENT = Paths.get("../shared/DOC.md");
     private static final Map<String, String> PARTS = new LinkedHashMap<>();
     private static final Map<String, boolean[]> TOLD = new LinkedHashMap<>();
+    private static boolean isThere = false;
     private static String sentence = "";
     private static int seenAhead = 0;
 
@@ -22,17 +23,29 @@ final class Edge {
 
     /** Parts are named as their headings are, up to a colon. */
     static void readDocument() throws IOException {
+        isThere = Files.isReadable(DOCUMENT);
+        if (!isThere) {
+            System.out.println("no " + DOCUMENT + ": the sentences are not looked up there");
+            return;
+        }
         String whole = new String(Files.readAllBytes(DOCUMENT), StandardCharsets.UTF_8);
         for (String piece : whole.split("(?m)^## ")) {
             int line = piece.indexOf('\n');
             String heading = piece.substring(0, Math.max(line, 0)).replaceAll(":.*", "").trim();
-            if (heading.equals("Terms") || heading.startsWith("Promise ")) {
-                String text = plain(piece.substring(line));
+            boolean isFirst = heading.equals("What it is");
+            if (isFirst || heading.equals("Terms") || heading.startsWith("Promise ")) {
+                String text = plain(isFirst ? lastParagraph(piece) : piece.substring(line));
                 PARTS.put(heading, text);
                 TOLD.put(heading, new boolean[text.length()]);
             }
         }
-        Check.due("parts of the document", PARTS.size(), 44);
+        Check.due("parts of the document", PARTS.size(), 45);
+    }
+
+    /** What stands ahead of it only names what the other parts tell. */
+    private static String lastParagraph(String piece) {
+        String text = piece.trim();
+        return text.substring(text.lastIndexOf("\n\n") + 1);
     }
 
     /** The face's own lines, marks of parts and fences are no sentences. */
@@ -47,6 +60,9 @@ final class Edge {
         sentence = part + ": " + words;
         Check.about(sentence);
         seenAhead = Check.seen();
+        if (!isThere) {
+            return;
+        }
         int at = PARTS.getOrDefault(part, "").indexOf(words);
         if (at < 0) {
             Check.fail("the document does not say it");

@@ -16,6 +16,7 @@ final class EdgesOfBooks {
         image();
         restore();
         count();
+        lastCall();
     }
 
     private static void bookIs() {
@@ -267,5 +268,22 @@ final class EdgesOfBooks {
         for (int what : new int[] {-1, 8, 9, Integer.MIN_VALUE, Integer.MAX_VALUE}) {
             Check.due("count(" + what + ")", x.count(what), -1);
         }
+    }
+
+    private static void lastCall() {
+        Edge.says("What it is", "An object is used for at most 512 calls after it has been made; what later calls answer is free.");
+        StruckWords x = Check.tongue(TURNING);
+        // feed, end and tongue; six calls each time; the last call that is promised is the 512th.
+        int calls = 3 + (TURNING.length() - 1) / 20;
+        for (; calls + 6 < 512; calls += 6) {
+            Check.lay(x, 0, 1);
+            Check.due("means", x.means(0), 2);
+            Check.due("turns", x.turns(), 2);
+            Check.due("image", x.image(calls % 2), true);
+        }
+        for (; calls < 511; calls++) {
+            Check.due("restore", x.restore(0), true);
+        }
+        Check.due("the 512th call", x.turns(), 2);
     }
 }

@@ -455,18 +455,8 @@ final class EdgesOfMeanings {
 
     private static void readings() {
         Edge.says("Promise 15", "How many READINGS it has by b;");
-        StringBuilder told = new StringBuilder("word w;word v;");
-        String five = "abcde";
-        for (char one : five.toCharArray()) {
-            told.append("sort ").append(one).append(" begins ends;");
-        }
-        for (char one : five.toCharArray()) {
-            for (char then : five.toCharArray()) {
-                told.append("follow ").append(one).append(' ').append(then).append(';');
-            }
-            told.append("reads w ").append(one).append(';');
-        }
-        StruckWords x = Check.tongue(told.toString());
+        StruckWords x = Check.tongue("word w;word v;" + Check.fiveThatFollow()
+            + "reads w a;reads w b;reads w c;reads w d;reads w e;");
         Check.due("no text", x.readings(0), 0);
         Check.lay(x, new int[24]);
         Check.due("5^24", x.readings(0), 59_604_644_775_390_625L);

@@ -25,22 +25,13 @@ final class EdgesOfTears {
     }
 
     private static String most() {
-        StringBuilder told = new StringBuilder("edict 5 4;");
-        String five = "abcde";
+        StringBuilder told = new StringBuilder("edict 5 4;").append(Check.fiveThatFollow());
         String eight = "pqrstuvw";
-        for (char one : five.toCharArray()) {
-            told.append("sort ").append(one).append(" begins ends;");
-        }
-        for (char one : five.toCharArray()) {
-            for (char then : five.toCharArray()) {
-                told.append("follow ").append(one).append(' ').append(then).append(';');
-            }
-        }
         for (char w : eight.toCharArray()) {
             told.append("word ").append(w).append(w == 'w' ? " weighs 60;" : ";");
         }
         for (char w : eight.toCharArray()) {
-            for (char one : five.toCharArray()) {
+            for (char one : "abcde".toCharArray()) {
                 told.append("reads ").append(w).append(' ').append(one).append(';');
             }
         }

@@ -28,12 +28,18 @@ public final class FaceTest {
                 String shown = method.getReturnType() + " " + method.getName() + "(" + types + ")";
                 Check.due("public " + shown + " is due", due.remove(shown), true);
                 names.add(method.getName());
+                boolean mayThrow = method.getName().equals("word") || method.getName().equals("known");
+                Check.due(shown + " tells what it throws",
+                    Arrays.toString(method.getExceptionTypes()).contains("java.util.NoSuchElementException"), mayThrow);
+                Check.due(shown + " tells no more", method.getExceptionTypes().length, mayThrow ? 1 : 0);
             } else {
                 Check.due(method + " is private", Modifier.isPrivate(method.getModifiers()), true);
             }
         }
         Check.due("missing: " + due, due.size(), 0);
         Check.due("public fields", StruckWords.class.getFields().length, 1);
+        Check.due("NONE", StruckWords.class.getField("NONE").getInt(null), -1);
+        Check.due("its type", StruckWords.class.getField("NONE").getType() == int.class, true);
         Check.due("constructors", StruckWords.class.getDeclaredConstructors().length, 1);
         Check.due("final", Modifier.isFinal(StruckWords.class.getModifiers()), true);
         methodsInside(names);

@@ -75,17 +75,8 @@ public final class MeaningTest {
     }
 
     private static void mostReadings() {
-        StringBuilder told = new StringBuilder("word w;mark m;");
-        for (char one : "abcde".toCharArray()) {
-            told.append("sort ").append(one).append(" begins ends;");
-        }
-        for (char one : "abcde".toCharArray()) {
-            for (char then : "abcde".toCharArray()) {
-                told.append("follow ").append(one).append(' ').append(then).append(';');
-            }
-        }
-        told.append("reads w a;reads w b;reads w c;reads w d;reads w e turns m;");
-        StruckWords x = Check.tongue(told.toString());
+        StruckWords x = Check.tongue("word w;mark m;" + Check.fiveThatFollow()
+            + "reads w a;reads w b;reads w c;reads w d;reads w e turns m;");
         Check.tape(x, new byte[24]);
         x.lay();
         Check.due("5^24", x.readings(0), 59_604_644_775_390_625L);

@@ -195,15 +195,7 @@ public final class MendTest {
     }
 
     private static void mostTorn() {
-        StringBuilder told = new StringBuilder("edict 5 4;");
-        for (char one : "abcde".toCharArray()) {
-            told.append("sort ").append(one).append(" begins ends;");
-        }
-        for (char one : "abcde".toCharArray()) {
-            for (char then : "abcde".toCharArray()) {
-                told.append("follow ").append(one).append(' ').append(then).append(';');
-            }
-        }
+        StringBuilder told = new StringBuilder("edict 5 4;").append(Check.fiveThatFollow());
         for (char w : "fghijklm".toCharArray()) {
             told.append("word ").append(w).append(w == 'k' ? " weighs 60;" : ";");
         }
